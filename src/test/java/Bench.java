@@ -6,7 +6,7 @@ final class Bench {
     static final int VALUE = 22, LATER = 23;
     static final int NONE = PatternMill.NONE;
 
-    final PatternMill mill = new PatternMill();
+    final Mill mill = new Mill();
 
     static Bench with(String text) {
         Bench bench = new Bench();
@@ -27,7 +27,8 @@ final class Bench {
 
     String text(int v) {
         StringBuilder text = new StringBuilder();
-        for (int i = 0; i < mill.length(v); i++) {
+        int length = mill.length(v);
+        for (int i = 0; i < length; i++) {
             text.append((char) mill.value(v, i));
         }
         return text.toString();
@@ -74,19 +75,35 @@ final class Bench {
         return outcome + way + " in " + mill.latest(2);
     }
 
+    /** A pattern that succeeds where it is begun, in just so many steps. */
+    int ofSteps(int steps) {
+        if (steps == 1) {
+            return node(LEN, 0);
+        }
+        if (steps % 2 == 0) {
+            return node(LATER, ofSteps(steps - 1));
+        }
+        int half = ofSteps((steps - 1) / 2);
+        return node(THEN, half, half);
+    }
+
+    static void placesDue(String want, String text, int c, int kind, String set, int a) {
+        String what = "kind " + kind + " '" + set + "' " + a + " at " + c + " of '" + text + "'";
+        Check.due(what, want, places(text, c, kind, set, a));
+    }
+
     /**
      * The places at which a node succeeds, begun at c, in order. FROM p behind it sends it back
      * until it is at p, and is a step each time: so the steps tell the how manieth place p is.
      */
-    static String places(String text, int c, int kind, String set, int a) {
+    private static String places(String text, int c, int kind, String set, int a) {
         String[] inOrder = new String[text.length() + 2];
+        int found = 0;
         for (int p = 0; p <= text.length(); p++) {
             Bench bench = with(text);
-            bench.slip(set);
-            int asked = bench.node(kind, a, 0);
-            int all = bench.row(bench.node(TAB, c), asked, bench.node(FROM, p));
-            if (bench.mill.match(0, all, true) == 1) {
+            if (bench.matchBehind(c, kind, set, a, bench.node(FROM, p)) == 1) {
                 inOrder[bench.mill.latest(2) - 4] = "" + p;
+                found++;
             }
         }
         StringBuilder places = new StringBuilder();
@@ -95,6 +112,20 @@ final class Bench {
                 places.append(places.length() == 0 ? "" : " ").append(place);
             }
         }
-        return places.toString();
+        int all = successes(text, c, kind, set, a);
+        return places + (all == found ? "" : ", but it succeeds " + all + " times");
+    }
+
+    /** How often a node succeeds if it is gone back into until it fails. */
+    private static int successes(String text, int c, int kind, String set, int a) {
+        Bench bench = with(text);
+        bench.matchBehind(c, kind, set, a, bench.node(FAIL));
+        return bench.mill.latest(2) - 4;
+    }
+
+    private int matchBehind(int c, int kind, String set, int a, int behind) {
+        slip(set);
+        int asked = node(kind, a, 0);
+        return mill.match(0, row(node(TAB, c), asked, behind), true);
     }
 }

@@ -26,94 +26,89 @@ public final class MatchTest {
         Check.end();
     }
 
-    private static void places(String want, String text, int c, int kind, String set, int a) {
-        String what = "kind " + kind + " '" + set + "' " + a + " at " + c + " of '" + text + "'";
-        Check.due(what, want, Bench.places(text, c, kind, set, a));
-    }
-
     private static void words() {
-        places("3", "abcab", 0, Bench.WORD, "abc", 0);
-        places("5", "abcab", 3, Bench.WORD, "ab", 0);
-        places("", "abcab", 3, Bench.WORD, "abc", 0);
-        places("", "abcab", 1, Bench.WORD, "ab", 0);
-        places("2", "abcab", 2, Bench.WORD, "", 0);
-        places("0", "", 0, Bench.WORD, "", 0);
-        places("", "", 0, Bench.WORD, "a", 0);
+        Bench.placesDue("3", "abcab", 0, Bench.WORD, "abc", 0);
+        Bench.placesDue("5", "abcab", 3, Bench.WORD, "ab", 0);
+        Bench.placesDue("", "abcab", 3, Bench.WORD, "abc", 0);
+        Bench.placesDue("", "abcab", 1, Bench.WORD, "ab", 0);
+        Bench.placesDue("2", "abcab", 2, Bench.WORD, "", 0);
+        Bench.placesDue("0", "", 0, Bench.WORD, "", 0);
+        Bench.placesDue("", "", 0, Bench.WORD, "a", 0);
     }
 
     private static void sets() {
-        places("1", "abc", 0, Bench.ANY, "xa", 0);
-        places("", "abc", 1, Bench.ANY, "xa", 0);
-        places("", "abc", 3, Bench.ANY, "abc", 0);
-        places("", "abc", 0, Bench.ANY, "", 0);
-        places("2", "abc", 1, Bench.NOT, "xa", 0);
-        places("", "abc", 0, Bench.NOT, "xa", 0);
-        places("", "abc", 3, Bench.NOT, "xa", 0);
-        places("1", "abc", 0, Bench.NOT, "", 0);
-        places("4", "babac", 0, Bench.SPAN, "ab", 0);
-        places("5", "babac", 2, Bench.SPAN, "abc", 0);
-        places("", "babac", 4, Bench.SPAN, "ab", 0);
-        places("", "babac", 5, Bench.SPAN, "ab", 0);
-        places("", "babac", 0, Bench.SPAN, "", 0);
-        places("4", "babac", 0, Bench.BREAK, "xc", 0);
-        places("1", "babac", 1, Bench.BREAK, "ca", 0);
-        places("", "babac", 0, Bench.BREAK, "x", 0);
-        places("", "babac", 5, Bench.BREAK, "c", 0);
-        places("", "babac", 0, Bench.BREAK, "", 0);
-        places("1", "\u0000\u00ff", 0, Bench.SPAN, "\u0000", 0);
-        places("2", "\u0000\u00ff", 0, Bench.SPAN, "\u00ff\u0000", 0);
+        Bench.placesDue("1", "abc", 0, Bench.ANY, "xa", 0);
+        Bench.placesDue("", "abc", 1, Bench.ANY, "xa", 0);
+        Bench.placesDue("", "abc", 3, Bench.ANY, "abc", 0);
+        Bench.placesDue("", "abc", 0, Bench.ANY, "", 0);
+        Bench.placesDue("2", "abc", 1, Bench.NOT, "xa", 0);
+        Bench.placesDue("", "abc", 0, Bench.NOT, "xa", 0);
+        Bench.placesDue("", "abc", 3, Bench.NOT, "xa", 0);
+        Bench.placesDue("1", "abc", 0, Bench.NOT, "", 0);
+        Bench.placesDue("4", "babac", 0, Bench.SPAN, "ab", 0);
+        Bench.placesDue("5", "babac", 2, Bench.SPAN, "abc", 0);
+        Bench.placesDue("", "babac", 4, Bench.SPAN, "ab", 0);
+        Bench.placesDue("", "babac", 5, Bench.SPAN, "ab", 0);
+        Bench.placesDue("", "babac", 0, Bench.SPAN, "", 0);
+        Bench.placesDue("4", "babac", 0, Bench.BREAK, "xc", 0);
+        Bench.placesDue("1", "babac", 1, Bench.BREAK, "ca", 0);
+        Bench.placesDue("", "babac", 0, Bench.BREAK, "x", 0);
+        Bench.placesDue("", "babac", 5, Bench.BREAK, "c", 0);
+        Bench.placesDue("", "babac", 0, Bench.BREAK, "", 0);
+        Bench.placesDue("1", "\u0000\u00ff", 0, Bench.SPAN, "\u0000", 0);
+        Bench.placesDue("2", "\u0000\u00ff", 0, Bench.SPAN, "\u00ff\u0000", 0);
     }
 
     private static void countedPlaces() {
-        places("2", "abcd", 2, Bench.LEN, "", 0);
-        places("4", "abcd", 2, Bench.LEN, "", 2);
-        places("", "abcd", 2, Bench.LEN, "", 3);
-        places("", "abcd", 2, Bench.LEN, "", BIG);
-        places("2", "abcd", 2, Bench.FROM, "", 2);
-        places("", "abcd", 2, Bench.FROM, "", 1);
-        places("", "abcd", 2, Bench.FROM, "", BIG);
-        places("1", "abcd", 1, Bench.BEFORE, "", 3);
-        places("4", "abcd", 4, Bench.BEFORE, "", 0);
-        places("", "abcd", 1, Bench.BEFORE, "", 1);
-        places("", "abcd", 0, Bench.BEFORE, "", BIG);
-        places("3", "abcd", 1, Bench.TAB, "", 3);
-        places("1", "abcd", 1, Bench.TAB, "", 1);
-        places("4", "abcd", 1, Bench.TAB, "", 4);
-        places("", "abcd", 1, Bench.TAB, "", 0);
-        places("", "abcd", 1, Bench.TAB, "", 5);
-        places("", "abcd", 1, Bench.TAB, "", BIG);
-        places("3", "abcd", 1, Bench.BACK, "", 1);
-        places("4", "abcd", 1, Bench.BACK, "", 0);
-        places("1", "abcd", 1, Bench.BACK, "", 3);
-        places("", "abcd", 1, Bench.BACK, "", 4);
-        places("", "abcd", 0, Bench.BACK, "", 5);
-        places("", "abcd", 0, Bench.BACK, "", BIG);
+        Bench.placesDue("2", "abcd", 2, Bench.LEN, "", 0);
+        Bench.placesDue("4", "abcd", 2, Bench.LEN, "", 2);
+        Bench.placesDue("", "abcd", 2, Bench.LEN, "", 3);
+        Bench.placesDue("", "abcd", 2, Bench.LEN, "", BIG);
+        Bench.placesDue("2", "abcd", 2, Bench.FROM, "", 2);
+        Bench.placesDue("", "abcd", 2, Bench.FROM, "", 1);
+        Bench.placesDue("", "abcd", 2, Bench.FROM, "", BIG);
+        Bench.placesDue("1", "abcd", 1, Bench.BEFORE, "", 3);
+        Bench.placesDue("4", "abcd", 4, Bench.BEFORE, "", 0);
+        Bench.placesDue("", "abcd", 1, Bench.BEFORE, "", 1);
+        Bench.placesDue("", "abcd", 0, Bench.BEFORE, "", BIG);
+        Bench.placesDue("3", "abcd", 1, Bench.TAB, "", 3);
+        Bench.placesDue("1", "abcd", 1, Bench.TAB, "", 1);
+        Bench.placesDue("4", "abcd", 1, Bench.TAB, "", 4);
+        Bench.placesDue("", "abcd", 1, Bench.TAB, "", 0);
+        Bench.placesDue("", "abcd", 1, Bench.TAB, "", 5);
+        Bench.placesDue("", "abcd", 1, Bench.TAB, "", BIG);
+        Bench.placesDue("3", "abcd", 1, Bench.BACK, "", 1);
+        Bench.placesDue("4", "abcd", 1, Bench.BACK, "", 0);
+        Bench.placesDue("1", "abcd", 1, Bench.BACK, "", 3);
+        Bench.placesDue("", "abcd", 1, Bench.BACK, "", 4);
+        Bench.placesDue("", "abcd", 0, Bench.BACK, "", 5);
+        Bench.placesDue("", "abcd", 0, Bench.BACK, "", BIG);
         Bench bench = Bench.with("abcd");
         int far = bench.row(bench.node(Bench.LEN, 1), bench.node(Bench.LEN, BIG));
         Check.due("LEN beyond all numbers", "0 in 3", bench.match(far, true));
-        places("4", "abcd", 1, Bench.REST, "", 0);
-        places("4", "abcd", 4, Bench.REST, "", 0);
-        places("", "abcd", 0, Bench.FAIL, "", 0);
+        Bench.placesDue("4", "abcd", 1, Bench.REST, "", 0);
+        Bench.placesDue("4", "abcd", 4, Bench.REST, "", 0);
+        Bench.placesDue("", "abcd", 0, Bench.FAIL, "", 0);
     }
 
     private static void arb() {
-        places("0 1 2 3", "abc", 0, Bench.ARB, "", 0);
-        places("2 3", "abc", 2, Bench.ARB, "", 0);
-        places("3", "abc", 3, Bench.ARB, "", 0);
-        places("0", "", 0, Bench.ARB, "", 0);
+        Bench.placesDue("0 1 2 3", "abc", 0, Bench.ARB, "", 0);
+        Bench.placesDue("2 3", "abc", 2, Bench.ARB, "", 0);
+        Bench.placesDue("3", "abc", 3, Bench.ARB, "", 0);
+        Bench.placesDue("0", "", 0, Bench.ARB, "", 0);
     }
 
     private static void balanced() {
-        places("1 4 5 9", "a(b)c(())", 0, Bench.BALANCED, "", 0);
-        places("3 5", "(b)()", 0, Bench.BALANCED, "", 0);
-        places("2", "(b)c", 1, Bench.BALANCED, "", 0);
-        places("", "b)c", 1, Bench.BALANCED, "", 0);
-        places("1", "b)(c", 0, Bench.BALANCED, "", 0);
-        places("", "((b)", 0, Bench.BALANCED, "", 0);
-        places("4", "((b)", 1, Bench.BALANCED, "", 0);
-        places("", "ab", 2, Bench.BALANCED, "", 0);
-        places("", "", 0, Bench.BALANCED, "", 0);
-        places("2 4", "()()", 0, Bench.BALANCED, "", 0);
+        Bench.placesDue("1 4 5 9", "a(b)c(())", 0, Bench.BALANCED, "", 0);
+        Bench.placesDue("3 5", "(b)()", 0, Bench.BALANCED, "", 0);
+        Bench.placesDue("2", "(b)c", 1, Bench.BALANCED, "", 0);
+        Bench.placesDue("", "b)c", 1, Bench.BALANCED, "", 0);
+        Bench.placesDue("1", "b)(c", 0, Bench.BALANCED, "", 0);
+        Bench.placesDue("", "((b)", 0, Bench.BALANCED, "", 0);
+        Bench.placesDue("4", "((b)", 1, Bench.BALANCED, "", 0);
+        Bench.placesDue("", "ab", 2, Bench.BALANCED, "", 0);
+        Bench.placesDue("", "", 0, Bench.BALANCED, "", 0);
+        Bench.placesDue("2 4", "()()", 0, Bench.BALANCED, "", 0);
     }
 
     private static void fenceAndAbort() {
@@ -295,29 +290,17 @@ public final class MatchTest {
         Check.due("another variable", "1 0-0 in 1", bench.match(7, bench.node(Bench.REST), false));
     }
 
-    /** A pattern that succeeds where it is begun, in just so many steps. */
-    private static int ofSteps(Bench bench, int steps) {
-        if (steps == 1) {
-            return bench.node(Bench.LEN, 0);
-        }
-        if (steps % 2 == 0) {
-            return bench.node(Bench.LATER, ofSteps(bench, steps - 1));
-        }
-        int half = ofSteps(bench, (steps - 1) / 2);
-        return bench.node(Bench.THEN, half, half);
-    }
-
     private static void theLastStep() {
         Bench bench = Bench.with("ab");
-        int most = ofSteps(bench, 3000);
-        int less = ofSteps(bench, 2998);
+        int most = bench.ofSteps(3000);
+        int less = bench.ofSteps(2998);
         int fail = bench.node(Bench.FAIL);
         Check.due("a match of 3000 steps", "1 0-0 in 3000", bench.match(most, true));
         Check.due("a match of 3001 steps", "3 in 3000", bench.match(bench.node(Bench.LATER, most), true));
         int failing = bench.node(Bench.THEN, less, fail);
         Check.due("3000 steps, and it fails", "0 in 3000", bench.match(failing, true));
         Check.due("3000 steps, and another start", "3 in 3000", bench.match(failing, false));
-        int orFail = bench.node(Bench.OR, bench.node(Bench.THEN, ofSteps(bench, 2997), fail), fail);
+        int orFail = bench.node(Bench.OR, bench.node(Bench.THEN, bench.ofSteps(2997), fail), fail);
         Check.due("the 3001st would be the other way", "3 in 3000", bench.match(orFail, true));
         bench.let(1, "x");
         bench.match(bench.node(Bench.THEN, bench.node(Bench.NOW, bench.node(Bench.LEN, 0), 1), most), true);
