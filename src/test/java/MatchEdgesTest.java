@@ -11,6 +11,7 @@ public final class MatchEdgesTest {
         beginsAtEachPlaceUpToTheEnd();
         anchoredAtTheFirstPlaceAlone();
         emptySubject();
+        endOfTheSubject();
         theSubjectIsAsItWasAtFirst();
         eachVariableCanBeTheSubject();
         eachOfItsAnswers();
@@ -67,6 +68,23 @@ public final class MatchEdgesTest {
                 int want = kind == Bench.ABORT ? 2 : failing.contains(kind) ? 0 : 1;
                 Check.due("kind " + kind + " of an empty subject", want, bench.mill.match(5, asked, anchored));
                 Check.due("its end", want == 1 ? 0 : NONE, bench.mill.latest(1));
+            }
+        }
+    }
+
+    /** As before, but begun at n; FROM 0 and TAB 0 are behind there. */
+    private static void endOfTheSubject() {
+        Set<Integer> failing = Set.of(Bench.ANY, Bench.NOT, Bench.SPAN, Bench.BREAK, Bench.FROM, Bench.TAB,
+                Bench.BALANCED, Bench.FAIL);
+        for (int kind = 0; kind <= 23; kind++) {
+            for (String text : new String[] {"a", "abc", ALL_A}) {
+                Bench bench = Bench.with(text);
+                bench.word("");
+                int emptyOrZero = kind == Bench.VALUE ? 7 : 0;
+                int atEnd = bench.row(bench.node(Bench.REST), bench.node(kind, emptyOrZero, 0));
+                int want = kind == Bench.ABORT ? 2 : failing.contains(kind) ? 0 : 1;
+                Check.due("kind " + kind + " at n", want, bench.mill.match(0, atEnd, true));
+                Check.due("its end", want == 1 ? text.length() : NONE, bench.mill.latest(1));
             }
         }
     }
